@@ -571,14 +571,17 @@ public final class MemberScanner {
         if (!isList(k) || type == null && c != NONE) {
             return UNKNOWN;
         }
-        int fault = faultOfPlace(rosters[k], i);
-        if (fault != 0) {
-            return comeTo(fault);
+        Roster roster = rosters[k];
+        if (roster == null) {
+            return comeTo(NULL);
         }
-        if (type != null && !rosters[k].takesType(type)) {
+        if (!roster.has(i)) {
+            return comeTo(INDEX);
+        }
+        if (type != null && !roster.takesType(type)) {
             return comeTo(STORE);
         }
-        rosters[k].places[i] = c;
+        roster.places[i] = c;
         return 1;
     }
 
@@ -587,8 +590,11 @@ public final class MemberScanner {
         if (!isList(k)) {
             return UNKNOWN;
         }
-        int fault = faultOfPlace(rosters[k], i);
-        return fault == 0 ? rosters[k].places[i] : comeTo(fault);
+        Roster roster = rosters[k];
+        if (roster == null) {
+            return comeTo(NULL);
+        }
+        return roster.has(i) ? roster.places[i] : comeTo(INDEX);
     }
 
     public int trial(int fault, int way) {
@@ -678,7 +684,7 @@ public final class MemberScanner {
         return 1;
     }
 
-    /** What is against taking what a SLOT has as a ROW of CELLS of a LANE; nothing can be taken as any ROW. */
+    /** The FAULT of taking what a SLOT has as a ROW of CELLS of a LANE; nothing at all is of every LANE. */
     private static int faultOfRow(Slot slot, int lane) {
         if (slot.hasNothing()) {
             return NULL;
@@ -686,6 +692,7 @@ public final class MemberScanner {
         return slot.depth == 2 || slot.lane != lane ? CAST : 0;
     }
 
+    /** The first FAULT on the way from an OBJECT to the next one, 0 if there is none. */
     private static int faultOfStep(Thing thing, int name) {
         Slot slot = thing == null ? null : thing.slotNamed(name);
         if (slot == null) {
@@ -713,13 +720,6 @@ public final class MemberScanner {
             return null;
         }
         return types.isBelow(thing.type, c) ? slot : null;
-    }
-
-    private static int faultOfPlace(Roster roster, int i) {
-        if (roster == null) {
-            return NULL;
-        }
-        return i >= 0 && i < roster.places.length ? 0 : INDEX;
     }
 
     private static final class Member {
@@ -858,7 +858,7 @@ public final class MemberScanner {
             return typeOf(d) != null && met[d];
         }
 
-        /** A CLASS starts after all above it, and what has STARTED stays so. */
+        /** A CLASS has STARTED, and all above it; its GUISES have not. */
         void start(int c) {
             int here = c;
             for (int i = 0; i <= MOST_ABOVE && typeOf(here) != null; i++) {
@@ -1360,6 +1360,10 @@ public final class MemberScanner {
             this.takes = takes;
             places = new int[Math.max(count, 0)];
             Arrays.fill(places, NONE);
+        }
+
+        boolean has(int i) {
+            return i >= 0 && i < places.length;
         }
 
         boolean takesType(Type type) {
