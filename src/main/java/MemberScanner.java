@@ -9,7 +9,8 @@ public final class MemberScanner {
 
     private static final int PLAIN = 0, ABSTRACT = 1, GUISE = 2, RECORD = 3, CHOICES = 4, BODY = 5;
     private static final int FIELD = 0, COMPONENT = 2;
-    private static final int FLOATS = 5, DOUBLES = 6, TRUTHS = 7, THINGS = 8, FIRST_VARIABLE = 9;
+    private static final int BYTES = 0, SHORTS = 1, CHARS = 2, INTS = 3, FLOATS = 5, DOUBLES = 6, TRUTHS = 7, THINGS = 8;
+    private static final int FIRST_VARIABLE = 9;
     private static final int HIDDEN = 1, STATIC = 2, KEY = 4, ALL_MARKS = 7;
     private static final int NULL = 1, CAST = 2, INDEX = 3, STORE = 4, SIZE = 5, ZERO = 6, KIND = 7;
     private static final int STATIC_KEY = 1, CLASH = 2, SECOND_KEY = 3;
@@ -1400,10 +1401,10 @@ public final class MemberScanner {
 
         static long become(long v, int lane) {
             switch (lane) {
-                case 0: return (byte) v;
-                case 1: return (short) v;
-                case 2: return (char) v;
-                case 3: return (int) v;
+                case BYTES: return (byte) v;
+                case SHORTS: return (short) v;
+                case CHARS: return (char) v;
+                case INTS: return (int) v;
                 case FLOATS: return toFloat(v);
                 case DOUBLES: return isNotANumber(v) ? NOT_A_NUMBER : v;
                 case TRUTHS: return v != 0 ? 1 : 0;
