@@ -1318,25 +1318,21 @@ public final class MemberScanner {
             if (what < HOW_MANY || what > SUM_OF_WHOLES) {
                 return Numbers.NOT_A_NUMBER;
             }
+            boolean isChosen = what == LEAST || what == GREATEST;
             int numbers = 0;
+            // Sums begin at 0.0, which makes 0.0 of a lone -0.0; the least and the greatest begin with a number.
             long result = 0;
             for (int i = 0; i < count; i++) {
                 long number = Numbers.widened(cells[i], lane, DOUBLES);
                 if (Numbers.isFinite(number)) {
-                    result = numbers == 0 ? first(what, number) : joined(what, result, number);
+                    result = isChosen && numbers == 0 ? number : joined(what, result, number);
                     numbers++;
                 }
             }
             if (what == HOW_MANY) {
                 return Numbers.ofWhole(numbers, false);
             }
-            boolean isChosen = what == LEAST || what == GREATEST;
             return isChosen && numbers == 0 ? Numbers.NOT_A_NUMBER : result;
-        }
-
-        /** Sums begin at 0.0, which makes 0.0 of a lone -0.0; the least and the greatest begin with a number. */
-        private static long first(int what, long number) {
-            return what == LEAST || what == GREATEST ? number : joined(what, 0, number);
         }
 
         private static long joined(int what, long result, long number) {
